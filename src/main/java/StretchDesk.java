@@ -275,46 +275,44 @@ public final class StretchDesk {
     }
 
     private int performed(int what, int a, int b, int to) {
-        if (!areSlots(what, a, b, to)) {
-            return NO_SLOT;
-        }
-        if (sorts[a] == ABSENT) {
-            return EMPTY_SLOT;
-        }
-        if (takesTwo(what)) {
-            return performedOnTwo(what, a, b, to);
-        }
-        switch (what) {
-            case SIZE:
-                return sized(a, to);
-            case ROUND:
-                return rounded(a, b, to);
-            case SIGN:
-                return signed(a, to);
-            case TURN:
-                return turned(a, to);
-            case AS:
-                return converted(a, b, to);
-            default:
-                return WRONG_VALUE;
-        }
-    }
-
-    private int performedOnTwo(int what, int a, int b, int to) {
-        if (sorts[b] == ABSENT) {
-            return EMPTY_SLOT;
-        }
-        if (sorts[a] != sorts[b]) {
-            return WRONG_SORT;
+        int refusal = refusalToPerform(what, a, b, to);
+        if (refusal < 0) {
+            return refusal;
         }
         switch (what) {
             case HULL:
                 return joined(a, b, to);
             case MEET:
                 return cut(a, b, to);
-            default:
+            case SIZE:
+                return sized(a, to);
+            case ROUND:
+                return rounded(a, b, to);
+            case SIGN:
+                return signed(a, to);
+            case LEND:
                 return lent(a, b, to);
+            case TURN:
+                return turned(a, to);
+            default:
+                return converted(a, b, to);
         }
+    }
+
+    private int refusalToPerform(int what, int a, int b, int to) {
+        if (!areSlots(what, a, b, to)) {
+            return NO_SLOT;
+        }
+        if (sorts[a] == ABSENT) {
+            return EMPTY_SLOT;
+        }
+        if (!takesTwo(what)) {
+            return 0;
+        }
+        if (sorts[b] == ABSENT) {
+            return EMPTY_SLOT;
+        }
+        return sorts[a] == sorts[b] ? 0 : WRONG_SORT;
     }
 
     private int joined(int a, int b, int to) {
@@ -450,7 +448,7 @@ public final class StretchDesk {
         }
 
         static boolean isLess(int sort, long one, long other) {
-            return rank(sort, one) < rank(sort, other);
+            return isBroken(sort) ? brokenRank(one) < brokenRank(other) : one < other;
         }
 
         static long lesser(int sort, long one, long other) {
@@ -507,8 +505,8 @@ public final class StretchDesk {
         }
 
         /** Turns the bits of broken numbers below 0 over, so that the ORDER is that of whole numbers. */
-        private static long rank(int sort, long v) {
-            return isBroken(sort) && v < 0 ? v ^ GREATEST_LONG : v;
+        private static long brokenRank(long v) {
+            return v < 0 ? v ^ GREATEST_LONG : v;
         }
 
         private static boolean isZero(int sort, long v) {
