@@ -1,37 +1,64 @@
 /** Counts and prints the answers that are not the ones that are due. */
-final class Checks {
+class Checks {
+    private String under = "";
     private int made = 0;
     private int wrong = 0;
 
-    void due(String call, long got, long want) {
+    /** What is checked from here on is told under these words. */
+    final void under(String words) {
+        under = words;
+    }
+
+    final int made() {
+        return made;
+    }
+
+    final void due(String call, long got, long want) {
         made++;
         if (got != want) {
-            wrong++;
-            if (wrong <= 50) {
-                System.out.println(call + " answered " + got + ", due is " + want);
-            }
+            tell(call + " answered " + got + ", due is " + want);
         }
     }
 
-    void dueRange(String call, StretchDesk desk, int slot, int sort, long low, long high) {
+    final void holds(String what, boolean so) {
+        made++;
+        if (!so) {
+            tell("does not hold: " + what);
+        }
+    }
+
+    final void dueRange(String call, StretchDesk desk, int slot, int sort, long low, long high) {
         due(call + ": sort", desk.sort(slot), sort);
         due(call + ": low", desk.low(slot), low);
         due(call + ": high", desk.high(slot), high);
     }
 
-    void dueEmpty(String call, StretchDesk desk, int slot) {
+    final void dueEmpty(String call, StretchDesk desk, int slot) {
         due(call + ": sort of what is EMPTY", desk.sort(slot), -3);
     }
 
-    void dueRefusal(String call, StretchDesk desk, long got, long want) {
+    final void dueRefusal(String call, StretchDesk desk, long got, long want) {
         due(call, got, want);
         due(call + ": state()", desk.state(), want);
+    }
+
+    /** An answer that is no refusal, however small it is. */
+    final void dueDone(String call, StretchDesk desk, long got, long want) {
+        due(call, got, want);
+        due(call + ": state()", desk.state(), 0);
     }
 
     void end() {
         System.out.println(wrong == 0 ? made + " answers are as due" : wrong + " of " + made + " answers are not as due");
         if (wrong != 0) {
             System.exit(1);
+        }
+    }
+
+    private void tell(String what) {
+        wrong++;
+        if (wrong <= 50) {
+            System.out.println(under + what);
         }
     }
 }
