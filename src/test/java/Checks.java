@@ -49,7 +49,8 @@ class Checks {
     }
 
     void end() {
-        System.out.println(wrong == 0 ? made + " answers are as due" : wrong + " of " + made + " answers are not as due");
+        String which = wrong == 0 ? made + " answers are" : wrong + " of " + made + " answers are not";
+        System.out.println(which + " as due");
         if (wrong != 0) {
             System.exit(1);
         }

@@ -67,7 +67,7 @@ final class Desks {
     static long[] notNumbers(int sort) {
         if (sort == FLOAT) {
             return new long[] {0x7f800001L, 0x7fc00000L, 0x7fffffffL, 0xff800001L, 0xffc00000L, 0xffffffffL, -1,
-                (int) 0xff800001, 0x1_7fc0_0000L, 0x8000_0000_7f80_0001L};
+                0xff800001, 0x1_7fc0_0000L, 0x8000_0000_7f80_0001L};
         }
         return new long[] {0x7ff0000000000001L, 0x7ff8000000000000L, 0x7fffffffffffffffL, 0xfff0000000000001L,
             0xfff8000000000000L, -1};

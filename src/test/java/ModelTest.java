@@ -5,8 +5,12 @@ import java.util.Random;
  * floats and doubles; the desk itself works on bits alone.
  */
 public final class ModelTest {
-    private static final int RUNS = 4000;
+    private static final int RUNS = 30000;
     private static final int CALLS = 512;
+
+    /** What one turn calls at most, with its looks at the desk. */
+    private static final int CALLS_A_TURN = 8;
+
     private static final long[] LONGS = {0, 1, -1, 2, -2, 3, 5, -7, Integer.MAX_VALUE, Integer.MIN_VALUE, 0x80000000L,
         0xffffffffL, 0x100000000L, 0x1ffffffffL, Long.MAX_VALUE, Long.MIN_VALUE, (1L << 53) + 1, (1L << 24) + 1,
         (1L << 60) + (1L << 36), (1L << 60) + (1L << 36) + 1, Long.MIN_VALUE + 1};
@@ -32,9 +36,30 @@ public final class ModelTest {
         StretchDesk desk = new StretchDesk();
         Model model = new Model();
         int slots = 1 + random.nextInt(16);
-        for (int i = 0; i < CALLS; i++) {
-            oneCall("run " + run + ", call " + i, desk, model, slots);
+        int left = CALLS;
+        if (random.nextBoolean()) {
+            fillChain("run " + run, desk, model, slots);
+            left -= 12;
         }
+        for (int i = 0; i < left / CALLS_A_TURN; i++) {
+            oneTurn("run " + run + ", turn " + i, desk, model, slots);
+        }
+    }
+
+    /** Most chains that are drawn step by step have gaps; long runs need one without. */
+    private void fillChain(String name, StretchDesk desk, Model model, int slots) {
+        for (int k = 0; k < 12; k++) {
+            int what = random.nextInt(8);
+            int a = random.nextInt(slots);
+            int b = second(what, random.nextInt(slots));
+            int to = random.nextInt(slots);
+            checks.due(name + " step", desk.step(k, what, a, b, to), model.step(k, what, a, b, to));
+        }
+    }
+
+    /** The second number of an operation: how, a SORT, or a slot. */
+    private int second(int what, int slot) {
+        return what == Desks.ROUND ? upTo(4) : what == Desks.AS ? upTo(3) : slot;
     }
 
     private int slot(int slots) {
@@ -48,7 +73,7 @@ public final class ModelTest {
     /** Not every end is NaN or out of order, or few slots would ever be filled. */
     private long number(int sort) {
         if (random.nextInt(3) == 0) {
-            return sort == 2 ? Float.floatToRawIntBits(Float.intBitsToFloat(random.nextInt())) : random.nextLong() >> random.nextInt(64);
+            return sort == 2 ? random.nextInt() : random.nextLong() >> random.nextInt(64);
         }
         if (sort < 2) {
             return LONGS[random.nextInt(LONGS.length)] + (random.nextInt(4) == 0 ? random.nextInt(7) - 3 : 0);
@@ -61,7 +86,7 @@ public final class ModelTest {
         return sort == 2 ? (Float.floatToRawIntBits((float) v) & 0xffffffffL) | high : Double.doubleToRawLongBits(v);
     }
 
-    private void oneCall(String name, StretchDesk desk, Model model, int slots) {
+    private void oneTurn(String name, StretchDesk desk, Model model, int slots) {
         int kind = random.nextInt(24);
         int a = slot(slots);
         int b = slot(slots);
@@ -70,7 +95,7 @@ public final class ModelTest {
         if (kind < 5) {
             long low = number(sort);
             long high = number(sort);
-            if (random.nextInt(5) != 0 && model.valid(sort, low) && model.valid(sort, high) && model.compare(sort, model.fit(sort, low), model.fit(sort, high)) > 0) {
+            if (random.nextInt(5) != 0 && model.areTurned(sort, low, high)) {
                 long swap = low;
                 low = high;
                 high = swap;
@@ -104,20 +129,9 @@ public final class ModelTest {
     private void doOne(String name, StretchDesk desk, Model model, int what, int[] slots) {
         int a = slots[0];
         int to = slots[2];
-        int b = what == 3 ? upTo(4) : what == 7 ? upTo(3) : slots[1];
+        int b = second(what, slots[1]);
         int want = model.noted(model.perform(what, a, b, to));
-        int got;
-        switch (what) {
-            case 0: got = desk.hull(a, b, to); break;
-            case 1: got = desk.meet(a, b, to); break;
-            case 2: got = desk.size(a, to); break;
-            case 3: got = desk.round(a, b, to); break;
-            case 4: got = desk.sign(a, to); break;
-            case 5: got = desk.lend(a, b, to); break;
-            case 6: got = desk.turn(a, to); break;
-            default: got = desk.as(a, b, to); break;
-        }
-        checks.due(name + " operation " + what, got, want);
+        checks.due(name + " operation " + what, Desks.perform(desk, what, a, b, to), want);
     }
 
     private void askOne(String name, StretchDesk desk, Model model, int kind, int[] slots) {
@@ -133,7 +147,7 @@ public final class ModelTest {
         } else if (kind < 5) {
             int k = upTo(11);
             int what = upTo(7);
-            int b = what == 3 ? upTo(4) : what == 7 ? upTo(3) : slots[1];
+            int b = second(what, slots[1]);
             checks.due(name + " step", desk.step(k, what, a, b, slots[2]), model.step(k, what, a, b, slots[2]));
         } else {
             int k = upTo(11);
@@ -184,6 +198,11 @@ public final class ModelTest {
 
         int compare(int sort, long x, long y) {
             return sort < 2 ? Long.compare(x, y) : Double.compare(real(sort, x), real(sort, y));
+        }
+
+        /** Both are numbers, the greater one first. */
+        boolean areTurned(int sort, long x, long y) {
+            return valid(sort, x) && valid(sort, y) && compare(sort, fit(sort, x), fit(sort, y)) > 0;
         }
 
         int taken(int slot) {
@@ -329,7 +348,7 @@ public final class ModelTest {
                 case 1: return put(to, sort, most(sort, low, ends[b][0]), least(sort, high, ends[b][1]), false);
                 case 2: return size(sort, low, high, to);
                 case 3: return put(to, sort, rounded(sort, low, b, true), rounded(sort, high, b, false), false);
-                case 4: return put(to, sort, bits(sort, Math.signum(real(sort, low))), bits(sort, Math.signum(real(sort, high))), false);
+                case 4: return put(to, sort, sign(sort, low), sign(sort, high), false);
                 case 5: return put(to, sort, lent(sort, low, ends[b][0]), lent(sort, high, ends[b][1]), true);
                 case 6: return put(to, sort, negative(sort, low), negative(sort, high), true);
                 default: return put(to, b, cast(sort, low, b), cast(sort, high, b), true);
@@ -366,6 +385,10 @@ public final class ModelTest {
             }
             boolean down = how == 0 || how == 3 && low || how == 4 && !low;
             return bits(sort, down ? Math.floor(x) : Math.ceil(x));
+        }
+
+        long sign(int sort, long v) {
+            return bits(sort, Math.signum(real(sort, v)));
         }
 
         long lent(int sort, long v, long lender) {

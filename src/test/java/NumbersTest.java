@@ -3,7 +3,9 @@ import java.util.Random;
 /** Many single numbers, the edges of every power of two among them, against the machine's own arithmetic. */
 public final class NumbersTest {
     private final Checks checks = new Checks();
-    private final StretchDesk desk = new StretchDesk();
+
+    /** Made anew for each number, as the document promises nothing of an object after 512 calls. */
+    private StretchDesk desk = new StretchDesk();
 
     public static void main(String[] args) {
         NumbersTest test = new NumbersTest();
@@ -62,6 +64,11 @@ public final class NumbersTest {
         oneFloat((float) -v);
     }
 
+    private void begin(int sort, long v) {
+        desk = new StretchDesk();
+        checks.due("set", desk.set(0, sort, v, v), 1);
+    }
+
     private long low(int answer) {
         checks.due("done", answer, 1);
         return desk.low(1);
@@ -69,7 +76,7 @@ public final class NumbersTest {
 
     private void oneBroken(double v) {
         long bits = Double.doubleToRawLongBits(v);
-        checks.due("set", desk.set(0, 3, bits, bits), 1);
+        begin(3, bits);
         checks.due(v + " down", low(desk.round(0, 0, 1)), Double.doubleToRawLongBits(Math.floor(v)));
         checks.due(v + " up", low(desk.round(0, 1, 1)), Double.doubleToRawLongBits(Math.ceil(v)));
         checks.due(v + " nearest", low(desk.round(0, 2, 1)), Double.doubleToRawLongBits(Math.rint(v)));
@@ -80,7 +87,7 @@ public final class NumbersTest {
 
     private void oneFloat(float v) {
         long bits = Float.floatToRawIntBits(v);
-        checks.due("set", desk.set(0, 2, bits, bits), 1);
+        begin(2, bits);
         checks.due(v + "f down", low(desk.round(0, 0, 1)), Float.floatToRawIntBits((float) Math.floor(v)));
         checks.due(v + "f up", low(desk.round(0, 1, 1)), Float.floatToRawIntBits((float) Math.ceil(v)));
         checks.due(v + "f nearest", low(desk.round(0, 2, 1)), Float.floatToRawIntBits((float) Math.rint(v)));
@@ -97,7 +104,7 @@ public final class NumbersTest {
     }
 
     private void oneWhole(int sort, long v) {
-        checks.due("set", desk.set(0, sort, v, v), 1);
+        begin(sort, v);
         checks.due(v + " as INT", low(desk.as(0, 0, 1)), (int) v);
         checks.due(v + " as LONG", low(desk.as(0, 1, 1)), v);
         checks.due(v + " as FLOAT", low(desk.as(0, 2, 1)), Float.floatToRawIntBits((float) v));

@@ -626,6 +626,10 @@ public final class OperationsTest {
         dueAs(INT, LEAST_INT, Integer.MAX_VALUE, FLOAT, f(-2147483648f), f(2147483648f));
         dueAs(INT, LEAST_INT, Integer.MAX_VALUE, DOUBLE, d(-2147483648.0), d(2147483647.0));
         dueAs(INT, 0, 1, FLOAT, f(0), f(1));
+        dueAs(INT, -1, 2, FLOAT, f(-1), f(2));
+        dueAs(INT, -2, -1, DOUBLE, d(-2), d(-1));
+        dueAs(LONG, -1, 1, FLOAT, f(-1), f(1));
+        dueAs(LONG, -1, 0, DOUBLE, d(-1), d(0));
         dueAs(LONG, LEAST_LONG, Long.MAX_VALUE, FLOAT, f(-0x1p63f), f(0x1p63f));
         dueAs(LONG, LEAST_LONG, Long.MAX_VALUE, DOUBLE, d(-0x1p63), d(0x1p63));
         dueAs(LONG, 0, (1L << 53) - 1, DOUBLE, d(0), d(9007199254740991.0));
@@ -675,6 +679,10 @@ public final class OperationsTest {
         dueAs(FLOAT, f(-2.75f), f(2.75f), INT, -2, 2);
         dueAs(FLOAT, f(-0.99f), f(-0f), LONG, 0, 0);
         dueAs(FLOAT, f(-1.5f), f(8388607.5f), LONG, -1, 8388607);
+        dueAs(FLOAT, f(-0x1p24f), f(0x1.000002p24f), INT, -16777216, 16777218);
+        dueAs(FLOAT, f(-0x1p23f), f(0x1p25f), LONG, -8388608, 33554432);
+        dueAs(DOUBLE, d(-0x1p53), d(0x1.0000000000001p53), LONG, -9007199254740992L, 9007199254740994L);
+        dueAs(DOUBLE, d(-0x1.0000000000001p52), d(0x1p54), LONG, -4503599627370497L, 18014398509481984L);
         dueAs(DOUBLE, d(-2147483647.5), d(2147483646.5), INT, -2147483647, 2147483646);
         dueAs(DOUBLE, d(-Double.MIN_VALUE), d(Double.MIN_VALUE), LONG, 0, 0);
         dueAs(DOUBLE, d(-0.0), d(0.999), INT, 0, 0);

@@ -229,7 +229,8 @@ public final class SlotsTest {
                     StretchDesk desk = Desks.with(sort, line[low], line[high]);
                     for (int i = 0; i < line.length; i++) {
                         long want = line[Math.min(Math.max(i, low), high)];
-                        DOC.dueDone("near " + line[i] + " in " + line[low] + " .. " + line[high], desk, desk.near(0, line[i]), want);
+                        String name = "near " + line[i] + " in " + line[low] + " .. " + line[high];
+                        DOC.dueDone(name, desk, desk.near(0, line[i]), want);
                     }
                 }
             }

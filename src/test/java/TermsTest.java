@@ -58,7 +58,7 @@ public final class TermsTest {
     private static void oneByOneOrInAChain() {
         int[] bs = {1, 1, 0, 3, 0, 1, 0, Desks.LONG};
         for (int what = 0; what < 8; what++) {
-            StretchDesk desk = Desks.withTwo(Desks.DOUBLE, Desks.d(-2.5), Desks.d(Desks.INF), Desks.d(-8.5), Desks.d(-1.5));
+            StretchDesk desk = twoDoubles();
             DOC.due("one by one", Desks.perform(desk, what, 0, bs[what], 2), 1);
             DOC.due("step", desk.step(0, what, 0, bs[what], 3), 1);
             DOC.due("in a chain", desk.run(0, 1), 1);
@@ -173,8 +173,8 @@ public final class TermsTest {
         DOC.dueRefusal("set: the upper bits make no number of what is none", desk,
             desk.set(0, Desks.FLOAT, 0, 0x7_7fc0_0000L), -4);
         DOC.due("set", desk.set(0, Desks.FLOAT, 0xbf800000L, 0xbf000000L), 1);
-        DOC.dueRange("told with sign", desk, 0, Desks.FLOAT, (int) 0xbf800000, (int) 0xbf000000);
-        DOC.due("near, told with sign", desk.near(0, 0xbf400000L), (int) 0xbf400000);
+        DOC.dueRange("told with sign", desk, 0, Desks.FLOAT, Desks.f(-1), Desks.f(-0.5f));
+        DOC.due("near, told with sign", desk.near(0, 0xbf400000L), Desks.f(-0.75f));
     }
 
     /** Whatever stands in the upper bits, the number is the same. */
@@ -211,7 +211,8 @@ public final class TermsTest {
             for (int i = 0; i < line.length; i++) {
                 StretchDesk desk = new StretchDesk();
                 for (int j = 0; j < line.length; j++) {
-                    DOC.due(line[i] + " .. " + line[j] + " of sort " + sort, desk.set(0, sort, line[i], line[j]), i <= j ? 1 : -5);
+                    String name = line[i] + " .. " + line[j] + " of sort " + sort;
+                    DOC.due(name, desk.set(0, sort, line[i], line[j]), i <= j ? 1 : -5);
                 }
             }
         }
@@ -300,7 +301,8 @@ public final class TermsTest {
                 for (int high = low; high < line.length; high++) {
                     StretchDesk desk = Desks.with(sort, line[low], line[high]);
                     for (int i = 0; i < line.length; i++) {
-                        DOC.due(line[i] + " in " + line[low] + " .. " + line[high], desk.has(0, line[i]), i >= low && i <= high ? 1 : 0);
+                        String name = line[i] + " in " + line[low] + " .. " + line[high];
+                        DOC.due(name, desk.has(0, line[i]), i >= low && i <= high ? 1 : 0);
                     }
                 }
             }
