@@ -610,7 +610,7 @@ public final class StretchDesk {
             if (power < 0) {
                 return 0;
             }
-            if (power >= (sort == INT ? 31 : 63)) {
+            if (power >= (sort == LONG ? 63 : 31)) {
                 return extreme(sort, v < 0);
             }
             int shift = fractionBits(from) - power;
