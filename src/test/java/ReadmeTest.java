@@ -67,7 +67,7 @@ public final class ReadmeTest {
         for (Method method : StretchDesk.class.getDeclaredMethods()) {
             if (Modifier.isPublic(method.getModifiers())) {
                 String call = method.getName();
-                CHECKS.due("parameters of " + call + " in the table", inTable(readme, call), method.getParameterCount());
+                CHECKS.due("the table: parameters of " + call, inTable(readme, call), method.getParameterCount());
             }
         }
     }
